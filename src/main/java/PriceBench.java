@@ -36,14 +36,14 @@ public final class PriceBench {
     // THE NET
 
     public int thing() {
-        return net.things >= MOST_THINGS ? FULL : net.addThing();
+        return net.addThing();
     }
 
     public int line(int a, int b, int start, int rise) {
         if (!net.isThing(a) || !net.isThing(b) || a == b || !isLineCost(start, rise)) {
             return BAD;
         }
-        return net.lines >= MOST_LINES ? FULL : net.addLine(a, b, start, rise);
+        return net.addLine(a, b, start, rise);
     }
 
     public int alter(int line, int start, int rise) {
@@ -573,6 +573,9 @@ public final class PriceBench {
         }
 
         int addThing() {
+            if (things >= MOST_THINGS) {
+                return FULL;
+            }
             changed(THING_CAME);
             return things++;
         }

@@ -172,6 +172,11 @@ public final class OfferTest {
         bench = NetTest.withThings(2);
         bench.pairing(0);
         DUE.is("13: BARS of the empty SIDE", bench.offerTold(0, 2), 3);
+        bench = NetTest.withThings(3);
+        bench.pairing(6);
+        bench.pairing(2);
+        DUE.is("13: BARS: one more in the SIDE", bench.offerTold(0, 2), 6);
+        DUE.is("13: BARS: one fewer in the SIDE", bench.offerTold(1, 2), 5);
     }
 
     private static void promise14() {

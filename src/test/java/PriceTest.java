@@ -84,7 +84,14 @@ public final class PriceTest {
         DUE.is("17: least()", bench.least(0, 9, 2, 0), 19);
         DUE.is("17: 0 is 0 by 1", bench.least(0, -1, 2, 1), 1);
         DUE.is("17: edges", bench.least(0, -10000, 1, 0), -39998);
-        DUE.is("17: no such OFFER", bench.least(2, 0, 1, 0), NO);
+        bench.told();
+        bench.tell(2, 16);
+        bench.tell(2, 12);
+        bench.tell(2, 3);
+        DUE.is("17: told the other way round", bench.least(2, 9, 2, 0), 19);
+        DUE.is("17: told the other way round", bench.least(2, 6, 1, 0), 20);
+        DUE.is("17: told the other way round", bench.least(2, 1, 1, 0), 6);
+        DUE.is("17: no such OFFER", bench.least(3, 0, 1, 0), NO);
         DUE.is("17: no CHOICES", bench.least(1, 0, 1, 0), NO);
         DUE.is("17: no PRICE", bench.least(0, 0, 1001, 0), NO);
         DUE.is("17: what", bench.least(0, 0, 1, 2), NO);
@@ -213,6 +220,9 @@ public final class PriceTest {
         DUE.is("23: which", bench.ratio(0, 2), 12);
         bench.alter(4, 20, -1);
         DUE.is("23: a RISE is below 0", bench.ratio(0, 2), NO);
+        bench = lines(3, 4, 8, 4);
+        DUE.is("23: the very first CHOICE", bench.ratio(0, 2), 1);
+        DUE.is("23: the very first CHOICE", bench.ratio(0, 1), 4);
         bench = lines(8, 4, 4, 2, 2, 1, -3, 1, -6, 2, 100, 20);
         DUE.is("23: below 0", bench.ratio(0, 0), -3);
         DUE.is("23: the first in THE ORDER", bench.ratio(0, 2), 8);
