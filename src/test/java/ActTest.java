@@ -4,12 +4,7 @@ public final class ActTest {
 
     /** OFFERS 0 TREE (8 CHOICES), 1 TOLD (1), 2 WAY (2), 3 PAIRING (2). */
     private static PriceBench kinds() {
-        PriceBench bench = NetTest.withThings(4);
-        bench.line(0, 1, 1, 1);
-        bench.line(1, 2, 2, 1);
-        bench.line(2, 3, 3, 1);
-        bench.line(3, 0, 4, 1);
-        bench.line(2, 0, 5, 1);
+        PriceBench bench = OfferTest.ring();
         bench.tree();
         bench.told();
         bench.way(1, 0);

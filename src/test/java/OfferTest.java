@@ -3,7 +3,7 @@ public final class OfferTest {
     private static final Due DUE = new Due("OfferTest");
 
     /** THINGS 0 to 3 in a ring of LINES 0 to 3, each as it goes, and LINE 4 from THING 2 back to 0. */
-    private static PriceBench ring() {
+    static PriceBench ring() {
         PriceBench bench = NetTest.withThings(4);
         bench.line(0, 1, 1, 1);
         bench.line(1, 2, 2, 1);
