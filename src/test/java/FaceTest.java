@@ -6,8 +6,10 @@ import java.lang.reflect.Modifier;
 import java.nio.file.Files;
 import java.nio.file.Path;
 import java.util.Arrays;
+import java.util.List;
 import java.util.Set;
 import java.util.TreeSet;
+import java.util.regex.Matcher;
 import java.util.regex.Pattern;
 
 /** The public face, and what of LANGUAGE.md shows in the compiled class and in the text of its file. */
@@ -120,6 +122,28 @@ public final class FaceTest {
         DUE.is("imports", imports, code.contains("import java.util.Arrays;") ? 1 : 0);
     }
 
+    /** Rule 4: of the library's static functions only these are called, and nothing is made but own classes and arrays. */
+    private static void library(Path file) throws IOException {
+        String text = Files.readString(file);
+        String code = Pattern.compile("/\\*.*?\\*/|//[^\\n]*", Pattern.DOTALL).matcher(text).replaceAll("");
+        Set<String> own = new TreeSet<>(List.of("PriceBench"));
+        for (Class<?> type : PriceBench.class.getDeclaredClasses()) {
+            own.add(type.getSimpleName());
+        }
+        Set<String> allowed = Set.of("Arrays.copyOf", "Arrays.copyOfRange", "Arrays.fill", "System.arraycopy",
+                "Math.abs", "Math.min", "Math.max", "Math.floorDiv", "Math.floorMod", "Integer.bitCount", "Integer.compare",
+                "Long.compare");
+        Matcher calls = Pattern.compile("\\b([A-Z]\\w*[a-z]\\w*)\\.(\\w+)\\(").matcher(code);
+        while (calls.find()) {
+            String call = calls.group(1) + "." + calls.group(2);
+            DUE.holds(call + " may be called", own.contains(calls.group(1)) || allowed.contains(call));
+        }
+        Matcher made = Pattern.compile("\\bnew (\\w+)").matcher(code);
+        while (made.find()) {
+            DUE.holds(made.group(1) + " may be made", own.contains(made.group(1)) || made.group(1).matches("int|long"));
+        }
+    }
+
     private static void methodLengths(Path file) throws IOException {
         int began = 0;
         int number = 0;
@@ -141,6 +165,7 @@ public final class FaceTest {
         members();
         sizes();
         text(file);
+        library(file);
         methodLengths(file);
         DUE.end();
     }

@@ -1,3 +1,6 @@
+import java.util.List;
+import java.util.function.Consumer;
+
 /** Promises 1 to 7: a new object, THINGS, LINES and what undoes their changes. */
 public final class NetTest {
     private static final Due DUE = new Due("NetTest");
@@ -164,6 +167,109 @@ public final class NetTest {
         DUE.is("6: the SHEET stays", bench.cell(0, 3, 1), 1);
     }
 
+    /** 3 THINGS, 3 LINES, OFFERS that do not have THING 3, a SHEET that lay() takes. */
+    private static PriceBench forUndo() {
+        PriceBench bench = withThings(3);
+        bench.line(0, 1, 11, 1);
+        bench.line(2, 1, 12, -2);
+        bench.line(2, 0, 13, 3);
+        bench.told();
+        bench.way(0, 2);
+        bench.pairing(5);
+        bench.sheet(0, 2, 4);
+        bench.cell(0, 1, 2);
+        bench.cell(0, 3, 9);
+        return bench;
+    }
+
+    private static String netOf(PriceBench bench) {
+        StringBuilder told = new StringBuilder().append(bench.count(0)).append(" THINGS");
+        for (int line = 0; line < bench.count(1); line++) {
+            for (int what = 0; what < 4; what++) {
+                told.append(what == 0 ? "; " : " ").append(bench.lineTold(line, what));
+            }
+        }
+        return told.toString();
+    }
+
+    private static final List<Consumer<PriceBench>> CHANGES = List.of(
+            bench -> bench.thing(), bench -> bench.line(1, 2, 0, 0), bench -> bench.alter(1, -5, 5),
+            bench -> bench.alter(0, 11, 1), bench -> bench.close(), bench -> bench.lay(0, 2, 0));
+
+    /** Calls that are no changes of THINGS or LINES, and refused ones that would be. */
+    private static final List<Consumer<PriceBench>> OTHERS = List.of(
+            bench -> bench.window(1, 1, 2, 1), bench -> bench.told(), bench -> bench.tell(0, 1), bench -> bench.tree(),
+            bench -> bench.way(1, 0), bench -> bench.pairing(6), bench -> bench.write(0), bench -> bench.act(0, 2, 1),
+            bench -> bench.sheet(0, 1, 4), bench -> bench.cell(0, 1, 1), bench -> bench.copy(0, 0, 0, 1, 2),
+            bench -> bench.cost(1, 1, 1, 0), bench -> bench.check(0), bench -> bench.line(0, 0, 0, 0),
+            bench -> bench.line(0, 1, 101, 0), bench -> bench.alter(9, 0, 0), bench -> bench.alter(0, 0, 21),
+            bench -> bench.lay(0, 2, 1), bench -> bench.lay(1, 2, 0), bench -> bench.lay(0, 1, 0));
+
+    /** "The latest of thing(), line(), alter(), close(), lay() that was not refused is undone (once)". */
+    private static void promise6Latest() {
+        String untouched = netOf(forUndo());
+        for (int i = 0; i < CHANGES.size(); i++) {
+            for (int j = 0; j < OTHERS.size(); j++) {
+                PriceBench bench = forUndo();
+                CHANGES.get(i).accept(bench);
+                OTHERS.get(j).accept(bench);
+                String name = "change " + i + " ahead of call " + j + ": ";
+                DUE.is("6: " + name + "undo()", bench.undo(), 1);
+                DUE.holds("6: " + name + "as it was", netOf(bench).equals(untouched));
+                DUE.is("6: " + name + "once", bench.undo(), -3);
+                DUE.holds("6: " + name + "once", netOf(bench).equals(untouched));
+            }
+            for (int j = 0; j < CHANGES.size(); j++) {
+                PriceBench bench = forUndo();
+                CHANGES.get(i).accept(bench);
+                String between = netOf(bench);
+                CHANGES.get(j).accept(bench);
+                String name = "change " + i + " ahead of change " + j + ": ";
+                DUE.is("6: " + name + "undo() of the latter", bench.undo(), 1);
+                DUE.holds("6: " + name + "the former stays", netOf(bench).equals(between));
+                DUE.is("6: " + name + "and can't be undone", bench.undo(), -3);
+                CHANGES.get(j).accept(bench);
+                DUE.is("6: " + name + "another change can", bench.undo(), 1);
+                DUE.holds("6: " + name + "as it was between both", netOf(bench).equals(between));
+            }
+        }
+    }
+
+    /** "An OFFER has a THING that would not be there": only a thing() takes one away; TREES and TOLD ones have none. */
+    private static void promise6Offers() {
+        for (int side = 0; side < 16; side++) {
+            PriceBench bench = withThings(4);
+            bench.pairing(side);
+            DUE.is("6: THING 3, SIDE " + side, bench.undo(), side < 8 ? 1 : -3);
+            DUE.is("6: THING 3, SIDE " + side, bench.count(0), side < 8 ? 3 : 4);
+            DUE.is("6: refused or undone, no second time", bench.undo(), -3);
+        }
+        for (int a = 0; a < 4; a++) {
+            for (int b = 0; b < 4; b++) {
+                PriceBench bench = withThings(4);
+                boolean has = bench.way(a, b) == 0 && (a == 3 || b == 3);
+                DUE.is("6: THING 3, WAY from " + a + " to " + b, bench.undo(), has ? -3 : 1);
+            }
+        }
+        PriceBench bench = withThings(4);
+        bench.told();
+        bench.tell(0, 4095);
+        bench.tree();
+        DUE.is("6: TOLD ones and TREES have no THING", bench.undo(), 1);
+        bench.thing();
+        bench.way(0, 3);
+        bench.line(0, 1, 0, 0);
+        DUE.is("6: a LINE goes, whatever OFFERS have", bench.undo(), 1);
+        bench.line(0, 3, 0, 0);
+        bench.close();
+        DUE.is("6: a LINE comes again", bench.undo(), 1);
+        bench.alter(0, 1, 1);
+        DUE.is("6: a LINE is as it was", bench.undo(), 1);
+        bench.thing();
+        DUE.is("6: a THING that no OFFER has", bench.undo(), 1);
+        DUE.is("6: a THING that no OFFER has", bench.count(0), 4);
+    }
+
     private static void promise7() {
         PriceBench bench = withThings(3);
         bench.line(2, 1, -1, 9);
@@ -186,6 +292,8 @@ public final class NetTest {
         promise5();
         promise6();
         promise6Things();
+        promise6Latest();
+        promise6Offers();
         promise7();
         DUE.end();
     }

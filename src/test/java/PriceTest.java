@@ -306,6 +306,52 @@ public final class PriceTest {
         DUE.is("26: a WAY", bench.why(3, 1, 0, 1), -2);
     }
 
+    /** LINES 0 (from 0 to 1), 1 (1 to 2), 2 (0 to 2) COST 4 + p, 6 and 3 p: all are like at 2, LINES 0 and 2 too. */
+    private static void promise26ByPrices() {
+        PriceBench bench = NetTest.withThings(3);
+        bench.line(0, 1, 4, 1);
+        bench.line(1, 2, 6, 0);
+        bench.line(0, 2, 0, 3);
+        bench.tree();
+        int[][] due = {{-10000, 1, 25, -1, 1}, {-3, 1, 25, -1, 1}, {1, 1000, 25, -1, 1}, {1, 2, 25, -1, 1},
+            {19, 10, 25, -1, 1}, {1999, 1000, 25, -1, 1}, {2, 1, -1, -1, -1}, {1998, 999, -1, -1, -1},
+            {2001, 1000, -1, 14, 2}, {7, 3, -1, 14, 2}, {9, 2, -1, 14, 2}, {10000, 1, -1, 14, 2}, {10000, 999, -1, 14, 2}};
+        for (int[] at : due) {
+            for (int i = 0; i < 3; i++) {
+                int set = new int[] {3, 5, 6}[i];
+                DUE.is("26: why(0, " + set + ", " + at[0] + ", " + at[1] + ")", bench.why(0, set, at[0], at[1]), at[2 + i]);
+            }
+        }
+        DUE.is("26: none, so it is of LEAST", bench.least(0, 7, 3, 0), bench.cost(3, 7, 3, 0));
+        bench.alter(1, 5, 0);
+        DUE.is("26: the dearest one just below 2", bench.why(0, 5, 19, 10), 12);
+        DUE.is("26: of like ones the least, at 2", bench.why(0, 5, 2, 1), 12);
+        DUE.is("26: the dearest one just above 2", bench.why(0, 5, 21, 10), 14);
+    }
+
+    /** "The dearest LINE of that way (of like ones the least)", and only of that way. */
+    private static void promise26OnTheWay() {
+        PriceBench bench = NetTest.withThings(5);
+        bench.line(3, 4, 90, 0);
+        bench.line(1, 0, 7, 0);
+        bench.line(1, 2, 8, 0);
+        bench.line(3, 2, 8, 0);
+        bench.line(0, 3, 7, 0);
+        bench.tree();
+        DUE.is("26: LINE 0 is dear, but not on the way", bench.why(0, 15, 0, 1), 50);
+        bench.alter(2, 7, 0);
+        DUE.is("26: the dearest one comes later", bench.why(0, 15, 0, 1), 51);
+        bench.alter(3, 7, 0);
+        DUE.is("26: all of the way are like it", bench.why(0, 15, 0, 1), -1);
+        bench.line(4, 3, 89, 0);
+        DUE.is("26: a LINE beside another one", bench.why(0, 15, 0, 1), 60);
+        bench.alter(5, 90, 0);
+        DUE.is("26: a like one beside it", bench.why(0, 15, 0, 1), -1);
+        DUE.is("26: from the other one", bench.why(0, 46, 0, 1), -1);
+        bench.alter(0, 89, 0);
+        DUE.is("26: from the other one", bench.why(0, 46, 0, 1), 5);
+    }
+
     public static void main(String[] args) {
         promise15();
         promise16();
@@ -319,6 +365,8 @@ public final class PriceTest {
         promise24();
         promise25();
         promise26();
+        promise26ByPrices();
+        promise26OnTheWay();
         DUE.end();
     }
 }

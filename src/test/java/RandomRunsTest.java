@@ -62,10 +62,13 @@ public final class RandomRunsTest {
         method("taken", 4, "ow");
     }
 
+    private static final int MOST_CALLS = 512;
+
     private final Due due;
     private final Map<String, Method> fastMethods = new TreeMap<>();
     private final Map<String, Method> slowMethods = new TreeMap<>();
     private long state;
+    private int calls;
     private PriceBench fast;
     private SlowBench slow;
     private int startsTo;
@@ -142,7 +145,12 @@ public final class RandomRunsTest {
                 : random(0, Math.min(4095, 1 << slow.count(1)));
     }
 
+    /** Nothing is promised behind an object's 512th call, so no more are asked. */
     private void ask(String run, String name, int... arguments) throws ReflectiveOperationException {
+        if (calls >= MOST_CALLS) {
+            return;
+        }
+        calls++;
         Object[] boxed = Arrays.stream(arguments).boxed().toArray();
         Number want = (Number) slowMethods.get(name).invoke(slow, boxed);
         Number got = (Number) fastMethods.get(name).invoke(fast, boxed);
@@ -289,32 +297,34 @@ public final class RandomRunsTest {
         }
     }
 
-    private void run(int number, int calls) throws ReflectiveOperationException {
+    /** Three sorts of runs by turns: mostly drawn calls, all about OFFERS, and about OFFERS behind drawn changes. */
+    private void run(int number) throws ReflectiveOperationException {
         state = number * 1000003L + 17;
+        calls = 0;
         fast = new PriceBench();
         slow = new SlowBench();
         String run = "run " + number + ":";
         begin(run);
-        for (int offer = 0; offer < slow.count(2); offer++) {
-            askAll(run, offer);
-            tamper(run, offer);
-        }
         layFromSheets(run);
-        for (int i = 0; i < calls; i++) {
+        int drawn = new int[] {MOST_CALLS, 0, 120}[number % 3];
+        for (int i = 0; i < drawn && calls < MOST_CALLS; i++) {
             askRandomly(run);
         }
-        for (int offer = 0; offer < slow.count(2); offer++) {
+        int offers = slow.count(2);
+        for (int i = 0; i < offers && calls < MOST_CALLS; i++) {
+            int offer = (i + number) % offers;
             askAll(run, offer);
+            tamper(run, offer);
         }
     }
 
     public static void main(String[] args) throws ReflectiveOperationException {
         int from = args.length > 0 ? Integer.parseInt(args[0]) : 1;
-        int many = args.length > 1 ? Integer.parseInt(args[1]) : 60;
+        int many = args.length > 1 ? Integer.parseInt(args[1]) : 120;
         Due due = new Due("RandomRunsTest");
         RandomRunsTest test = new RandomRunsTest(due);
         for (int number = from; number < from + many; number++) {
-            test.run(number, 120);
+            test.run(number);
         }
         due.end();
     }

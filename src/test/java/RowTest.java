@@ -84,16 +84,72 @@ public final class RowTest {
         wrong("1 ahead of 2 to 4", 9, 1, 0, 1, 0, 0);
         wrong("not above the ROW ahead", 10, 1, 4, 1, 12, 3);
         wrong("not above the ROW ahead", 10, 1, 7, 2, 3, 16);
+        wrong("1 ahead of 2", 9, 1, 8, 2, 12, 3);
+        wrong("1 ahead of 3", 1, 0, 8, 2, 0, 3);
+        wrong("1 ahead of 4", 1, 0, 8, 2, 12, 0);
+        wrong("1 ahead of 5", 1, 0, 10, 2, 12, 3);
+        wrong("1 ahead of 7", 1, 0, 8, 2, 3, 12);
         wrong("2 ahead of 3", 10, 1, 4, 1, 0, 0);
+        wrong("2 ahead of 4", 10, 1, 4, 1, 12, 0);
+        wrong("2 ahead of 5", 10, 1, 4, 1, 12, 16);
+        wrong("2 ahead of 7", 10, 1, 4, 1, 3, 12);
+        wrong("below the ROW ahead by little", 10, 1, 3999, 1000, 3, 16);
+        wrong("above the ROW ahead by little, so 5", 13, 1, 4001, 1000, 3, 16);
         wrong("BELOW is no CHOICE", 3, 0, 4, 1, 5, 3);
         wrong("3 ahead of 4", 11, 1, 5, 1, -1, 99999);
         wrong("ABOVE is no CHOICE", 12, 1, 5, 1, 3, 17);
         wrong("COSTS are not alike", 5, 0, 3, 1, 12, 3);
+        wrong("COSTS are not alike by little", 5, 0, 3999, 1000, 12, 3);
+        wrong("5 ahead of 7", 5, 0, 3, 1, 3, 12);
         wrong("COSTS are not alike, 5 ahead of 6", 13, 1, 9, 1, 12, 3);
         wrong("LEAST is less", 6, 0, 9, 2, 12, 16);
         wrong("6 ahead of 7", 6, 0, 9, 2, 16, 12);
         wrong("RISES the other way", 7, 0, 4, 1, 3, 12);
         wrong("like RISES", 15, 1, 5, 1, 16, 16);
+    }
+
+    /** "Strictly in THE WINDOW", whose ends are fractions: the ROWS are at 4 and at 5. */
+    private static void promise30Windows() {
+        int[][] windows = {{11, 3, 21, 4, -1}, {39, 10, 51, 10, -1}, {4, 1, 51, 10, 1}, {8, 2, 51, 10, 1}, {39, 10, 5, 1, 9},
+            {39, 10, 15, 3, 9}, {7, 2, 14, 3, 9}, {3, 1, 999, 200, 9}, {801, 200, 6, 1, 1}, {-7, 3, 25, 6, 9}, {17, 4, 19, 4, 1}};
+        for (int[] at : windows) {
+            PriceBench bench = written();
+            bench.window(at[0], at[1], at[2], at[3]);
+            DUE.is("30: THE WINDOW from " + at[0] + "/" + at[1] + " to " + at[2] + "/" + at[3], bench.check(0), at[4]);
+        }
+    }
+
+    /** "Of an OFFER": ROWS of one, checked for others, whatever their KIND is. */
+    private static void promise30Offers() {
+        PriceBench bench = NetTest.withThings(2);
+        bench.line(0, 1, 9, 0);
+        bench.line(0, 1, 3, 2);
+        bench.line(1, 0, 0, 1);
+        bench.tree();
+        bench.way(0, 1);
+        bench.pairing(2);
+        bench.told();
+        bench.tell(3, 2);
+        bench.tell(3, 1);
+        DUE.is("27: the WAY bends once", bench.write(1), 1);
+        DUE.is("28: at 3", bench.row(0, 0), 3);
+        int[] due = {6, -1, 6, -1};
+        for (int offer = 0; offer < 4; offer++) {
+            DUE.is("30: for OFFER " + offer, bench.check(offer), due[offer]);
+        }
+        bench.close();
+        for (int offer = 0; offer < 4; offer++) {
+            DUE.is("30: for OFFER " + offer + ", without LINE 2", bench.check(offer), -1);
+        }
+        bench.close();
+        for (int offer = 0; offer < 4; offer++) {
+            DUE.is("30: for OFFER " + offer + ", without LINE 1", bench.check(offer), 3);
+        }
+        bench.undo();
+        bench.alter(0, 9, 2);
+        for (int offer = 0; offer < 4; offer++) {
+            DUE.is("30: for OFFER " + offer + ", LINE 0 altered", bench.check(offer), 5);
+        }
     }
 
     private static void promise30Rows() {
@@ -125,6 +181,8 @@ public final class RowTest {
         promise28();
         promise29();
         promise30();
+        promise30Windows();
+        promise30Offers();
         promise30Rows();
         DUE.end();
     }

@@ -35,6 +35,46 @@ public final class SheetTest {
         DUE.is("34: from is 0", bench.lineTold(0, 0), 0);
     }
 
+    /** "A SHEET becomes a row of n of a sort, all 0", whatever it was before; other SHEETS stay. */
+    private static void promise34All0() {
+        for (int before = 0; before < 3; before++) {
+            for (int sort = 0; sort < 3; sort++) {
+                PriceBench bench = NetTest.withThings(2);
+                bench.sheet(0, before, 9);
+                bench.sheet(2, before, 9);
+                for (int i = 0; i < 9; i++) {
+                    bench.cell(0, i, 50 + i);
+                    bench.cell(2, i, 60 + i);
+                }
+                bench.sheet(0, sort, sort == 1 ? -1 : 41);
+                DUE.is("34: refused, it stays as it was", Portrait.item(bench, 0, before, 8), 58);
+                bench.sheet(0, sort, 2);
+                DUE.is("34: its sort", Portrait.sortOf(bench, 0), sort);
+                bench.sheet(0, sort, 9);
+                for (int i = 0; i < 9; i++) {
+                    DUE.is("34: all 0, item " + i, Portrait.item(bench, 0, sort, i), 0);
+                }
+                DUE.is("34: another SHEET stays", Portrait.item(bench, 2, before, 8), 68);
+            }
+        }
+    }
+
+    /** "Item i of a SHEET becomes v": that one alone, the first and the last one too. */
+    private static void promise35OneItem() {
+        for (int sort = 0; sort < 3; sort++) {
+            for (int i = 0; i < 4; i++) {
+                PriceBench bench = NetTest.withThings(2);
+                bench.sheet(1, sort, 4);
+                bench.sheet(3, sort, 4);
+                DUE.is("35: cell(1, " + i + ", 77)", bench.cell(1, i, 77), 1);
+                for (int k = 0; k < 4; k++) {
+                    DUE.is("35: item " + k, Portrait.item(bench, 1, sort, k), k == i ? 77 : 0);
+                    DUE.is("35: item " + k + " of another SHEET", Portrait.item(bench, 3, sort, k), 0);
+                }
+            }
+        }
+    }
+
     private static void promise35() {
         PriceBench bench = new PriceBench();
         bench.sheet(1, 2, 3);
@@ -144,7 +184,9 @@ public final class SheetTest {
 
     public static void main(String[] args) {
         promise34();
+        promise34All0();
         promise35();
+        promise35OneItem();
         promise36();
         promise37();
         DUE.end();
