@@ -56,7 +56,7 @@ public final class WrapTest {
         PriceBench bench = NetTest.withThings(2);
         int calls = 0;
         for (int v = -300; v <= 300; v++) {
-            if (calls % 60 == 0) {
+            if (calls % 40 == 0) {
                 bench = NetTest.withThings(2);
                 bench.sheet(0, 0, 1);
             }
